@@ -147,7 +147,7 @@ public final class NewspaperMakeup {
     public int change(int story, int what, int value)
             throws IndexOutOfBoundsException, IllegalArgumentException {
         needStory(story);
-        if (what < 0 || what >= CHANGEABLE || !isInRange(what, value)) {
+        if (!isInRange(what, value)) {
             throw new IllegalArgumentException();
         }
         history.remember(edition);
@@ -265,14 +265,9 @@ public final class NewspaperMakeup {
 
     public int blamed(int story) throws IndexOutOfBoundsException, NoSuchElementException {
         needStory(story);
-        int culprit = pages.startsOnOwnPage(story) ? NONE : findCulprit(story);
-        if (culprit == NONE) {
+        if (pages.startsOnOwnPage(story)) {
             throw new NoSuchElementException();
         }
-        return culprit;
-    }
-
-    private int findCulprit(int story) {
         for (int rank = pages.rankOf(story) - 1; rank >= 0; rank--) {
             int suspect = pages.storyOfRank(rank);
             trial.copyFrom(edition);
@@ -282,7 +277,7 @@ public final class NewspaperMakeup {
                 return suspect;
             }
         }
-        return NONE;
+        throw new NoSuchElementException();
     }
 
     public int linesIf(int story, boolean isLate) throws IndexOutOfBoundsException {
@@ -600,9 +595,21 @@ public final class NewspaperMakeup {
         return page >= 0 && page < PAGES;
     }
 
-    /** Whether a number of a story, one of those that can be changed, may have this value. */
+    /** Whether a number of a story can be changed, and may have this value. */
     private static boolean isInRange(int what, int value) {
-        return value >= LEAST[what] && value <= GREATEST[what];
+        return what >= 0 && what < CHANGEABLE && value >= LEAST[what] && value <= GREATEST[what];
+    }
+
+    private static boolean isStoryIndex(int story) {
+        return story >= 0 && story < STORIES;
+    }
+
+    private static boolean isAdvertisementIndex(int advertisement) {
+        return advertisement >= 0 && advertisement < ADVERTISEMENTS;
+    }
+
+    private static boolean isCellIndex(int index) {
+        return index >= 0 && index < PAGES * PAGE_CELLS;
     }
 
     // A cell of all pages has one index: page by page, in a page row by row.
@@ -650,19 +657,24 @@ public final class NewspaperMakeup {
         }
 
         boolean hasStory(int story) {
-            return story >= 0 && story < STORIES && storyIsThere[story];
+            return isStoryIndex(story) && storyIsThere[story];
         }
 
         boolean hasAdvertisement(int advertisement) {
-            return advertisement >= 0 && advertisement < ADVERTISEMENTS
-                    && advertisementIsThere[advertisement];
+            return isAdvertisementIndex(advertisement) && advertisementIsThere[advertisement];
         }
 
         int storyNumber(int story, int what) {
+            if (!isStoryIndex(story) || what < 0 || what >= STORY_NUMBERS) {
+                return 0;
+            }
             return storyNumbers[story * STORY_NUMBERS + what];
         }
 
         int advertisementNumber(int advertisement, int what) {
+            if (!isAdvertisementIndex(advertisement) || what < 0 || what >= AD_NUMBERS) {
+                return 0;
+            }
             return advertisementNumbers[advertisement * AD_NUMBERS + what];
         }
 
@@ -787,7 +799,7 @@ public final class NewspaperMakeup {
         /** Adds a story that has no fault; returns its number, NONE if there is no room for it. */
         int putStory(int page, int width, int headline, int lines, int priority) {
             int story = storiesMade;
-            if (story < 0 || story >= STORIES) {
+            if (!isStoryIndex(story)) {
                 return NONE;
             }
             storiesMade = story + 1;
@@ -805,7 +817,7 @@ public final class NewspaperMakeup {
         /** Adds an advertisement that has no fault; returns its number, NONE if there is no room. */
         int putAdvertisement(int page, int column, int row, int width, int height, int price) {
             int advertisement = advertisementsMade;
-            if (advertisement < 0 || advertisement >= ADVERTISEMENTS) {
+            if (!isAdvertisementIndex(advertisement)) {
                 return NONE;
             }
             advertisementsMade = advertisement + 1;
@@ -821,7 +833,9 @@ public final class NewspaperMakeup {
         }
 
         void putStoryNumber(int story, int what, int value) {
-            storyNumbers[story * STORY_NUMBERS + what] = value;
+            if (isStoryIndex(story) && what >= 0 && what < STORY_NUMBERS) {
+                storyNumbers[story * STORY_NUMBERS + what] = value;
+            }
         }
 
         void putPhoto(int story, int height, int caption) {
@@ -834,11 +848,15 @@ public final class NewspaperMakeup {
         }
 
         void dropStory(int story) {
-            storyIsThere[story] = false;
+            if (isStoryIndex(story)) {
+                storyIsThere[story] = false;
+            }
         }
 
         void dropAdvertisement(int advertisement) {
-            advertisementIsThere[advertisement] = false;
+            if (isAdvertisementIndex(advertisement)) {
+                advertisementIsThere[advertisement] = false;
+            }
         }
     }
 
@@ -864,7 +882,7 @@ public final class NewspaperMakeup {
             rankStories();
             int stories = edition.storyCount();
             for (int rank = 0; rank < stories; rank++) {
-                placeStory(storiesByRank[rank]);
+                placeStory(storyOfRank(rank));
             }
         }
 
@@ -895,8 +913,8 @@ public final class NewspaperMakeup {
 
         private void rankStories() {
             for (int story = 0; story < STORIES; story++) {
-                if (edition.hasStory(story)) {
-                    int rank = countBefore(story);
+                int rank = countBefore(story);
+                if (edition.hasStory(story) && isStoryIndex(rank)) {
                     ranks[story] = rank;
                     storiesByRank[rank] = story;
                 }
@@ -969,11 +987,11 @@ public final class NewspaperMakeup {
 
         /** How many rows from a cell on downwards are free in this many columns. */
         private int freeRows(int index, int width) {
-            int end = (pageOf(index) + 1) * PAGE_CELLS;
             int rows = 0;
-            for (int left = index; left < end; left += COLUMNS) {
+            for (int row = rowOf(index); row < ROWS; row++) {
+                int left = index + rows * COLUMNS;
                 for (int column = 0; column < width; column++) {
-                    if (kinds[left + column] != FREE) {
+                    if (!isCellIndex(left + column) || kinds[left + column] != FREE) {
                         return rows;
                     }
                 }
@@ -988,7 +1006,7 @@ public final class NewspaperMakeup {
             int head = edition.headRows(story);
             int lines = edition.storyNumber(story, LINES);
             int depth = freeRows(index, width) - head;
-            startDepths[story] = depth;
+            putStartDepth(story, depth);
             if (lines <= width * depth) {
                 addPart(story, index, width, head + linesOfColumn(lines, width, 0), lines, false);
                 return NONE;
@@ -1003,7 +1021,7 @@ public final class NewspaperMakeup {
         /** Makes a later part of a story; returns the cell at which it goes on again, or NONE. */
         private int placeContinuation(int story, int index) {
             int depth = freeRows(index, 1);
-            int remaining = edition.storyNumber(story, LINES) - placedLines[story];
+            int remaining = linesCut(story);
             if (remaining <= depth - 1) {
                 addPart(story, index, 1, 1 + remaining, remaining, false);
                 return NONE;
@@ -1014,9 +1032,15 @@ public final class NewspaperMakeup {
             return next;
         }
 
+        private void putStartDepth(int story, int depth) {
+            if (isStoryIndex(story)) {
+                startDepths[story] = depth;
+            }
+        }
+
         private void addPart(int story, int index, int width, int rows, int lines, boolean jumps) {
-            int part = partCounts[story];
-            if (part < 0 || part >= PARTS) {
+            int part = partCountOf(story);
+            if (!isStoryIndex(story) || part < 0 || part >= PARTS) {
                 return;
             }
             int at = (story * PARTS + part) * PART_NUMBERS;
@@ -1065,8 +1089,10 @@ public final class NewspaperMakeup {
             for (int row = 0; row < rows; row++) {
                 for (int column = 0; column < width; column++) {
                     int at = index + row * COLUMNS + column;
-                    kinds[at] = kind;
-                    owners[at] = owner;
+                    if (isCellIndex(at)) {
+                        kinds[at] = kind;
+                        owners[at] = owner;
+                    }
                 }
             }
         }
@@ -1091,7 +1117,7 @@ public final class NewspaperMakeup {
 
         /** The cell in which a line is, NONE if it is on no page. */
         int cellOfLine(int story, int line) {
-            for (int part = 0; part < partCounts[story]; part++) {
+            for (int part = 0; part < partCountOf(story); part++) {
                 int offset = line - partNumber(story, part, PART_FIRST_LINE);
                 int lines = partNumber(story, part, PART_LINES);
                 if (offset >= 0 && offset < lines) {
@@ -1116,31 +1142,35 @@ public final class NewspaperMakeup {
         }
 
         int kindAt(int index) {
-            return kinds[index];
+            return isCellIndex(index) ? kinds[index] : FREE;
         }
 
         int ownerAt(int index) {
-            return owners[index];
+            return isCellIndex(index) ? owners[index] : NONE;
         }
 
         int partNumber(int story, int part, int what) {
+            if (!isStoryIndex(story) || part < 0 || part >= PARTS
+                    || what < 0 || what >= PART_NUMBERS) {
+                return 0;
+            }
             return partNumbers[(story * PARTS + part) * PART_NUMBERS + what];
         }
 
         int rankOf(int story) {
-            return ranks[story];
+            return isStoryIndex(story) ? ranks[story] : NONE;
         }
 
         int storyOfRank(int rank) {
-            return storiesByRank[rank];
+            return isStoryIndex(rank) ? storiesByRank[rank] : NONE;
         }
 
         int partCountOf(int story) {
-            return partCounts[story];
+            return isStoryIndex(story) ? partCounts[story] : 0;
         }
 
         boolean isLeftOut(int story) {
-            return partCounts[story] == 0;
+            return partCountOf(story) == 0;
         }
 
         int startPageOf(int story) {
@@ -1156,16 +1186,17 @@ public final class NewspaperMakeup {
         }
 
         int linesOnPages(int story) {
-            return placedLines[story];
+            return isStoryIndex(story) ? placedLines[story] : 0;
         }
 
         int linesCut(int story) {
-            return edition.storyNumber(story, LINES) - placedLines[story];
+            return edition.storyNumber(story, LINES) - linesOnPages(story);
         }
 
         /** How many lines would have their place at the start, with no jump and none cut. */
         int linesAtStart(int story) {
-            return edition.storyNumber(story, WIDTH) * startDepths[story];
+            int depth = isStoryIndex(story) ? startDepths[story] : 0;
+            return edition.storyNumber(story, WIDTH) * depth;
         }
 
         int leftOutCount() {
@@ -1191,7 +1222,7 @@ public final class NewspaperMakeup {
         int jumpCount() {
             int jumps = 0;
             for (int story = 0; story < STORIES; story++) {
-                for (int part = 0; part < partCounts[story]; part++) {
+                for (int part = 0; part < partCountOf(story); part++) {
                     jumps += partNumber(story, part, PART_JUMPS);
                 }
             }
@@ -1221,7 +1252,7 @@ public final class NewspaperMakeup {
         int cellsOfKind(int page, int kind) {
             int cells = 0;
             for (int index = page * PAGE_CELLS; index < (page + 1) * PAGE_CELLS; index++) {
-                if (kinds[index] == kind) {
+                if (kindAt(index) == kind) {
                     cells++;
                 }
             }
@@ -1232,7 +1263,7 @@ public final class NewspaperMakeup {
         int usedCells(int page, int column) {
             int cells = 0;
             for (int row = 0; row < ROWS; row++) {
-                int kind = kinds[cellIndex(page, column, row)];
+                int kind = kindAt(cellIndex(page, column, row));
                 if (kind != FREE && kind != WHITE) {
                     cells++;
                 }
@@ -1251,7 +1282,7 @@ public final class NewspaperMakeup {
         int cellsOfParts() {
             int cells = 0;
             for (int story = 0; story < STORIES; story++) {
-                for (int part = 0; part < partCounts[story]; part++) {
+                for (int part = 0; part < partCountOf(story); part++) {
                     cells += partNumber(story, part, PART_WIDTH) * partNumber(story, part, PART_ROWS);
                 }
             }
@@ -1261,7 +1292,7 @@ public final class NewspaperMakeup {
         /** Whether the lines of all parts of a story are those that are not cut. */
         boolean hasSoundLines(int story) {
             int lines = 0;
-            for (int part = 0; part < partCounts[story]; part++) {
+            for (int part = 0; part < partCountOf(story); part++) {
                 lines += partNumber(story, part, PART_LINES);
             }
             return lines == edition.storyNumber(story, LINES) - linesCut(story);
@@ -1281,7 +1312,10 @@ public final class NewspaperMakeup {
         }
 
         void remember(Edition present) {
-            editions[next].copyFrom(present);
+            Edition free = editionAt(next);
+            if (free != null) {
+                free.copyFrom(present);
+            }
             next = (next + 1) % CHANGES;
             changes = Math.min(changes + 1, CHANGES);
         }
@@ -1294,8 +1328,15 @@ public final class NewspaperMakeup {
         int takeBack(Edition present) {
             next = (next + CHANGES - 1) % CHANGES;
             changes--;
-            present.copyFrom(editions[next]);
+            Edition earlier = editionAt(next);
+            if (earlier != null) {
+                present.copyFrom(earlier);
+            }
             return changes;
+        }
+
+        private Edition editionAt(int at) {
+            return at >= 0 && at < CHANGES ? editions[at] : null;
         }
 
         void forget() {
@@ -1319,11 +1360,19 @@ public final class NewspaperMakeup {
         }
 
         boolean isEmptyAt(int spot) {
-            return holds[spot] == EMPTY;
+            return heldAt(spot) == EMPTY;
         }
 
         boolean isStoryAt(int spot) {
-            return holds[spot] == HOLDS_STORY;
+            return heldAt(spot) == HOLDS_STORY;
+        }
+
+        private int heldAt(int spot) {
+            return isSpot(spot) ? holds[spot] : EMPTY;
+        }
+
+        private static boolean isSpot(int spot) {
+            return spot >= 0 && spot < SHELF_ROWS * SHELF_PLACES;
         }
 
         int filledPlaces(int row) {
@@ -1337,6 +1386,9 @@ public final class NewspaperMakeup {
         }
 
         void keepStory(int spot, Edition edition, int story) {
+            if (!isSpot(spot)) {
+                return;
+            }
             holds[spot] = HOLDS_STORY;
             for (int what = 0; what < STORY_NUMBERS; what++) {
                 numbers[spot * STORY_NUMBERS + what] = edition.storyNumber(story, what);
@@ -1344,6 +1396,9 @@ public final class NewspaperMakeup {
         }
 
         void keepAdvertisement(int spot, Edition edition, int advertisement) {
+            if (!isSpot(spot)) {
+                return;
+            }
             holds[spot] = HOLDS_ADVERTISEMENT;
             for (int what = 0; what < AD_NUMBERS; what++) {
                 numbers[spot * STORY_NUMBERS + what] =
@@ -1352,6 +1407,9 @@ public final class NewspaperMakeup {
         }
 
         private int kept(int spot, int what) {
+            if (!isSpot(spot) || what < 0 || what >= STORY_NUMBERS) {
+                return 0;
+            }
             return numbers[spot * STORY_NUMBERS + what];
         }
 
@@ -1400,7 +1458,7 @@ public final class NewspaperMakeup {
 
         /** Appends a letter to a buffer that is not full; returns how many letters it holds then. */
         int append(char letter) {
-            if (length < LETTERS) {
+            if (length >= 0 && length < LETTERS) {
                 letters[length] = letter;
                 length++;
             }
@@ -1414,7 +1472,7 @@ public final class NewspaperMakeup {
             commandCount = 0;
             numberCount = 0;
             wantsCommand = true;
-            for (int position = 0; position < end; position++) {
+            for (int position = 0; position < end && position < LETTERS; position++) {
                 if (!accepts(letters[position])) {
                     return position;
                 }
@@ -1447,7 +1505,7 @@ public final class NewspaperMakeup {
 
         private boolean startCommand(char letter) {
             int size = sizeOf(letter);
-            if (size == 0 || commandCount >= LETTERS) {
+            if (size == 0 || commandCount < 0 || commandCount >= LETTERS) {
                 return false;
             }
             commandLetters[commandCount] = letter;
@@ -1476,6 +1534,10 @@ public final class NewspaperMakeup {
         }
 
         private void startNumber() {
+            if (numberCount >= 0 && numberCount < LETTERS) {
+                numbers[numberCount] = 0;
+                numberCount++;
+            }
             missingNumbers--;
             digits = 0;
         }
@@ -1484,11 +1546,11 @@ public final class NewspaperMakeup {
             if (digits >= DIGITS) {
                 return false;
             }
-            if (digits == 0) {
-                numbers[numberCount] = 0;
-                numberCount++;
+            int at = numberCount - 1;
+            if (at < 0 || at >= LETTERS) {
+                return false;
             }
-            numbers[numberCount - 1] = numbers[numberCount - 1] * 10 + digit;
+            numbers[at] = numbers[at] * 10 + digit;
             digits++;
             return true;
         }
@@ -1497,12 +1559,17 @@ public final class NewspaperMakeup {
             return commandCount;
         }
 
+        private static boolean isCommand(int command) {
+            return command >= 0 && command < LETTERS;
+        }
+
         char letterOf(int command) {
-            return commandLetters[command];
+            return isCommand(command) ? commandLetters[command] : ' ';
         }
 
         int numberOf(int command, int which) {
-            return numbers[firstNumbers[command] + which];
+            int at = isCommand(command) ? firstNumbers[command] + which : NONE;
+            return at >= 0 && at < LETTERS ? numbers[at] : 0;
         }
     }
 }
