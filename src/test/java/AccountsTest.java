@@ -8,6 +8,7 @@ public final class AccountsTest {
 
     public static void main(String[] args) {
         count();
+        countOfStoryZero();
         cellCount();
         fill();
         unevenness();
@@ -48,6 +49,16 @@ public final class AccountsTest {
             int w = what;
             CHECKS.answers("19: then count " + w, then[w], () -> x.count(w));
         }
+    }
+
+    private static void countOfStoryZero() {
+        NewspaperMakeup x = new NewspaperMakeup();
+        x.addAdvertisement(0, 0, 0, 5, 24, 1);
+        x.addStory(0, 1, 1, 5, 4);
+        CHECKS.answers("19: story 0 is bumped", 1, () -> x.count(3));
+        x.setLate(0, true);
+        CHECKS.answers("19: story 0 is left out", 1, () -> x.count(2));
+        CHECKS.answers("19: so it isn't bumped", 0, () -> x.count(3));
     }
 
     private static void cellCount() {

@@ -18,6 +18,8 @@ public final class PagesTest {
         goingOnNeedsThreeRows();
         startNeedsTwoRows();
         firstBlockOfAPage();
+        lowestBlocks();
+        narrowPlaceToGoOn();
         wrongParts();
         locate();
         ranked();
@@ -161,6 +163,33 @@ public final class PagesTest {
         part(x, "12: then the left column", 0, 0, 0, 0, 1, 2, 2, 2, 0, 0);
     }
 
+    private static void lowestBlocks() {
+        NewspaperMakeup x = new NewspaperMakeup();
+        x.addAdvertisement(0, 0, 0, 5, 21, 1);
+        x.addAdvertisement(1, 0, 0, 5, 21, 1);
+        x.addAdvertisement(2, 0, 4, 5, 20, 1);
+        x.addStory(0, 1, 1, 7, 5);
+        part(x, "12: starts in the lowest rows", 0, 0, 0, 0, 21, 1, 3, 1, 0, 1);
+        part(x, "12: goes on in the lowest rows", 0, 1, 1, 0, 21, 1, 3, 1, 1, 1);
+        part(x, "12: goes on for 3 lines, then jumps", 0, 2, 2, 0, 0, 1, 4, 2, 2, 1);
+        part(x, "12: ends", 0, 3, 3, 0, 0, 1, 4, 3, 4, 0);
+        x.change(0, 3, 5);
+        part(x, "12: just full, with a later page", 0, 2, 2, 0, 0, 1, 4, 3, 2, 0);
+        x.change(0, 3, 4);
+        part(x, "12: not full", 0, 2, 2, 0, 0, 1, 3, 2, 2, 0);
+    }
+
+    private static void narrowPlaceToGoOn() {
+        NewspaperMakeup x = new NewspaperMakeup();
+        x.addAdvertisement(1, 0, 0, 2, 24, 1);
+        x.addAdvertisement(1, 3, 0, 2, 20, 1);
+        x.addStory(0, 2, 1, 60, 5);
+        part(x, "12: one free column is enough", 0, 1, 1, 2, 0, 1, 17, 16, 44, 0);
+        x.addAdvertisement(1, 2, 10, 1, 10, 1);
+        part(x, "12: as far as it is free", 0, 1, 1, 2, 0, 1, 10, 8, 44, 1);
+        part(x, "12: and the rest", 0, 2, 2, 0, 0, 1, 9, 8, 52, 0);
+    }
+
     private static void wrongParts() {
         NewspaperMakeup x = new NewspaperMakeup();
         x.addStory(0, 1, 1, 1, 0);
@@ -243,6 +272,10 @@ public final class PagesTest {
         CHECKS.answers("15: lines are cut", 1, () -> x.fate(1));
         CHECKS.answers("15: left out", 3, () -> x.fate(2));
         CHECKS.answers("15: left out, too", 3, () -> x.fate(3));
+        x.change(1, 3, 47);
+        CHECKS.answers("15: one line is cut", 1, () -> x.fate(1));
+        x.change(1, 3, 46);
+        CHECKS.answers("15: none is cut", 0, () -> x.fate(1));
         x.remove(true, 0);
         CHECKS.answers("15: bumped", 2, () -> x.fate(3));
         x.change(3, 3, 150);

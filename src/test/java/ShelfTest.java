@@ -35,6 +35,8 @@ public final class ShelfTest {
         CHECKS.answers("24: a story in row 0", 1, () -> x.layDown(0, 3, true, 0));
         CHECKS.answers("24: another place", 2, () -> x.layDown(0, 0, true, 0));
         CHECKS.answers("24: in place of it", 2, () -> x.layDown(0, 3, true, 0));
+        CHECKS.answers("24: full", 4,
+                () -> x.layDown(0, 1, true, 0) + x.layDown(0, 2, true, 0) - 3);
         CHECKS.answers("24: an advertisement in row 1", 1, () -> x.layDown(1, 0, false, 0));
         CHECKS.answers("24: row 2 takes stories", 1, () -> x.layDown(2, 1, true, 0));
         CHECKS.answers("24: and advertisements", 2, () -> x.layDown(2, 2, false, 0));
