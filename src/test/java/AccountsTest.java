@@ -14,6 +14,8 @@ public final class AccountsTest {
         unevenness();
         wrongPages();
         isSound();
+        greatestPrices();
+        fullAndEmptyPages();
         CHECKS.end();
     }
 
@@ -128,5 +130,44 @@ public final class AccountsTest {
         CHECKS.answers("23: sound without the long story", true, x::isSound);
         x.undo();
         CHECKS.answers("23: sound after undo", true, x::isSound);
+        NewspaperMakeup y = new NewspaperMakeup();
+        for (int story = 0; story < 12; story++) {
+            y.addStory(story % 4, 1 + story % 3, 1, 40 + story, story % 5);
+            y.setPhoto(story, story % 2 == 0 ? 0 : 4, story % 2);
+            CHECKS.answers("23: sound with story " + story, true, y::isSound);
+        }
+        y.addAdvertisement(0, 0, 0, 5, 24, 1);
+        CHECKS.answers("23: sound with stories left out", true, y::isSound);
+    }
+
+    private static void greatestPrices() {
+        NewspaperMakeup x = new NewspaperMakeup();
+        for (int page = 0; page < 4; page++) {
+            int p = page;
+            CHECKS.answers("19: prices of full pages", p * 119880, () -> x.count(7));
+            x.addAdvertisement(page, 0, 0, 5, 24, 999);
+            CHECKS.answers("9: price of a full page", 119880, () -> x.advertisement(p, 6));
+        }
+        CHECKS.answers("19: prices of all cells", 479520, () -> x.count(7));
+        x.addStory(0, 1, 1, 150, 0);
+        CHECKS.answers("19: no line is on pages", 0, () -> x.count(5));
+        CHECKS.answers("19: all lines are cut", 150, () -> x.count(6));
+    }
+
+    private static void fullAndEmptyPages() {
+        NewspaperMakeup x = new NewspaperMakeup();
+        x.addStory(1, 1, 1, 23, 0);
+        CHECKS.answers("21: a column", 24f / 120f, () -> x.fill(1));
+        CHECKS.answers("22: a column", uneven(24, 0, 0, 0, 0), () -> x.unevenness(1));
+        x.addAdvertisement(1, 4, 23, 1, 1, 1);
+        CHECKS.answers("22: first and last", uneven(24, 0, 0, 0, 1), () -> x.unevenness(1));
+        CHECKS.answers("21: an empty page", 0f, () -> x.fill(2));
+        CHECKS.answers("22: an empty page", 0.0, () -> x.unevenness(2));
+        CHECKS.answers("20: all of it is free", 120, () -> x.cellCount(2, 0));
+        x.addAdvertisement(2, 0, 0, 5, 24, 1);
+        CHECKS.answers("21: a full page", 1f, () -> x.fill(2));
+        CHECKS.answers("20: nothing of it is free", 0, () -> x.cellCount(2, 0));
+        CHECKS.answers("20: all is advertisement", 120, () -> x.cellCount(2, 1));
+        CHECKS.answers("20: pages are counted by themselves", 1, () -> x.cellCount(1, 1));
     }
 }

@@ -12,7 +12,12 @@ public final class CommandsTest {
     public static void main(String[] args) {
         feed();
         performCarriesOut();
+        performLaysOut();
+        performsOneAfterTheOther();
+        eachCommandMayBeFirst();
         errorPositions();
+        errorPositionsOfAFullBuffer();
+        numbersTooFewOrTooMany();
         errorsHaveNoEffect();
         failures();
         failuresHaveNoEffect();
@@ -21,7 +26,13 @@ public final class CommandsTest {
         undo();
         undoOfEveryChange();
         undoKeepsEight();
+        undoOfExactlyEight();
+        changesThatChangeNothing();
+        undoBringsAdvertisementsBack();
+        undoLeavesTheRest();
         saveAndRestore();
+        whatWasSavedStays();
+        changesAfterRestore();
         CHECKS.end();
     }
 
@@ -70,6 +81,96 @@ public final class CommandsTest {
         CHECKS.answers("27: sixteen commands", 16, () -> perform(x, sixteen));
         CHECKS.answers("27: greatest numbers", 1, () -> perform(x, "s3,3,3,150,9"));
         CHECKS.answers("27: its lines", 150, () -> x.story(1, 3));
+    }
+
+    private static void performLaysOut() {
+        NewspaperMakeup x = new NewspaperMakeup();
+        perform(x, "a3,1,20,2,4,10;s3,1,1,9,0;s3,2,1,8,0");
+        int[] due = {3, 1, 20, 2, 4, 10, 80};
+        for (int what = 0; what < due.length; what++) {
+            int w = what;
+            CHECKS.answers("27: advertisement, number " + w, due[w], () -> x.advertisement(0, w));
+        }
+        CHECKS.answers("27: the advertisement is on its page", 100, () -> x.owner(3, 2, 23));
+        CHECKS.answers("27: the first story", 3009, () -> x.locate(0, 8));
+        CHECKS.answers("27: the second story", 3201, () -> x.locate(1, 4));
+        perform(x, "l1,1");
+        CHECKS.answers("27: late, so it goes first", 3101, () -> x.locate(1, 4));
+        perform(x, "p1,2,2");
+        CHECKS.answers("27: below photo and caption", 3105, () -> x.locate(1, 4));
+    }
+
+    private static void performsOneAfterTheOther() {
+        NewspaperMakeup x = new NewspaperMakeup();
+        x.addStory(0, 1, 1, 1, 0);
+        for (int time = 1; time <= 20; time++) {
+            boolean late = time % 2 == 1;
+            CHECKS.answers("27: text " + time, 3,
+                    () -> perform(x, late ? "p0,8,2;p0,2,1;l0,7" : "p0,3,0;p0,4,2;l0,0"));
+            CHECKS.answers("27: late after text " + time, late ? 1 : 0, () -> x.story(0, 7));
+            CHECKS.answers("27: photo after text " + time, late ? 2 : 4, () -> x.story(0, 5));
+        }
+        CHECKS.answers("27: an error after them", -102, () -> perform(x, "p0"));
+        CHECKS.answers("27: and a text after it", 1, () -> perform(x, "p0,0,0"));
+        CHECKS.answers("27: only its own command", 0, () -> x.story(0, 5) + x.story(0, 7));
+    }
+
+    private static void eachCommandMayBeFirst() {
+        String[] commands = {"s1,2,3,4,5", "a1,2,3,1,1,6", "p0,2,1", "l0,1"};
+        for (String first : commands) {
+            for (String second : commands) {
+                NewspaperMakeup x = new NewspaperMakeup();
+                x.addStory(0, 1, 1, 1, 0);
+                String text = first + ";" + second;
+                if (text.equals(commands[1] + ";" + commands[1])) {
+                    CHECKS.refuses("27: " + text, UNSUPPORTED, () -> perform(x, text));
+                } else {
+                    CHECKS.answers("27: " + text, 2, () -> perform(x, text));
+                }
+            }
+        }
+    }
+
+    private static void errorPositionsOfAFullBuffer() {
+        String fifteen = "l0,0;".repeat(15);
+        Object[][] due = {{fifteen + "l0,01", 16}, {fifteen + "l00,1", 16}, {fifteen + "l0,0;", -180},
+            {fifteen + "l000,", -180}, {fifteen + "l0,0,", -179}, {fifteen + "l0000", -179},
+            {fifteen + "s0,1,", -180}, {"l0,0;".repeat(16), -180}, {"l".repeat(80), -101},
+            {"s0,1,1,1,1;".repeat(7) + "p0,", -180}, {"s0,1,1,1,1;".repeat(7) + "p0;", -179}};
+        for (Object[] d : due) {
+            NewspaperMakeup x = new NewspaperMakeup();
+            x.addStory(0, 1, 1, 1, 1);
+            CHECKS.answers("27: 80 letters '" + d[0] + "'", d[1], () -> perform(x, (String) d[0]));
+            CHECKS.answers("26: empty after 80 letters", 1, () -> x.feed('l'));
+            CHECKS.answers("27: the text after it", -101, x::perform);
+        }
+    }
+
+    private static void numbersTooFewOrTooMany() {
+        char[] letters = {'s', 'a', 'p', 'l'};
+        int[] sizes = {5, 6, 3, 2};
+        for (int at = 0; at < letters.length; at++) {
+            for (int numbers = 1; numbers <= 8; numbers++) {
+                if (numbers == sizes[at]) {
+                    continue;
+                }
+                String text = letters[at] + "1" + ",1".repeat(numbers - 1);
+                boolean isShort = numbers < sizes[at];
+                int position = 2 * (isShort ? numbers : sizes[at]);
+                error(text, position);
+                error(text + ";l0,1", position);
+                error("l0,1;" + text, position + 5);
+            }
+        }
+    }
+
+    private static void error(String text, int position) {
+        NewspaperMakeup x = new NewspaperMakeup();
+        x.addStory(0, 1, 1, 1, 1);
+        CHECKS.answers("27: error in '" + text + "'", -100 - position, () -> perform(x, text));
+        CHECKS.answers("27: no effect of '" + text + "'", 0, () -> x.story(0, 7));
+        CHECKS.refuses("28: no report of '" + text + "'", ELEMENT, () -> x.report(0, 0));
+        CHECKS.answers("29: no change by '" + text + "'", 0, x::undo);
     }
 
     private static void errorPositions() {
@@ -237,6 +338,140 @@ public final class CommandsTest {
         }
         CHECKS.answers("29: the oldest that is kept", 12, () -> x.story(0, 3));
         CHECKS.refuses("29: no more", STATE, x::undo);
+    }
+
+    private static void undoOfExactlyEight() {
+        NewspaperMakeup x = new NewspaperMakeup();
+        for (int story = 0; story < 8; story++) {
+            x.addStory(0, 1, 1, 1, 1);
+        }
+        for (int left = 7; left >= 0; left--) {
+            int l = left;
+            CHECKS.answers("29: of eight are left", l, x::undo);
+            CHECKS.answers("29: stories left", l, () -> x.count(0));
+        }
+        CHECKS.refuses("29: no ninth", STATE, x::undo);
+        for (int story = 0; story < 9; story++) {
+            x.addStory(0, 1, 1, 1, 1);
+        }
+        for (int left = 7; left >= 0; left--) {
+            CHECKS.answers("29: of nine are left", left, x::undo);
+        }
+        CHECKS.refuses("29: not the ninth", STATE, x::undo);
+        CHECKS.answers("29: the first story stays", 1, () -> x.count(0));
+        CHECKS.answers("29: the next number", 1, () -> x.addStory(0, 1, 1, 1, 1));
+    }
+
+    private static void changesThatChangeNothing() {
+        NewspaperMakeup x = new NewspaperMakeup();
+        x.addStory(0, 1, 1, 1, 1);
+        x.setPhoto(0, 0, 0);
+        x.setLate(0, false);
+        x.change(0, 0, 0);
+        x.change(0, 3, 1);
+        perform(x, "l0,0");
+        perform(x, "p0,0,0;l0,1;l0,0");
+        for (int left = 6; left >= 0; left--) {
+            CHECKS.answers("29: the story is there", 1, () -> x.count(0));
+            CHECKS.answers("29: also if everything stays the same", left, x::undo);
+        }
+        CHECKS.answers("29: the story is gone", 0, () -> x.count(0));
+    }
+
+    private static void undoBringsAdvertisementsBack() {
+        NewspaperMakeup x = new NewspaperMakeup();
+        for (int number = 0; number < 8; number++) {
+            x.addAdvertisement(number / 2, 2, 12 * (number % 2), 3, 12, 991 + number);
+        }
+        for (int number = 7; number >= 0; number--) {
+            x.remove(false, number);
+        }
+        CHECKS.answers("7: none remains", 0, () -> x.count(1));
+        for (int number = 0; number < 8; number++) {
+            int n = number;
+            CHECKS.answers("29: back is advertisement " + n, 7 - n, x::undo);
+            int[] due = {n / 2, 2, 12 * (n % 2), 3, 12, 991 + n, 36 * (991 + n)};
+            for (int what = 0; what < due.length; what++) {
+                int w = what;
+                CHECKS.answers("29: its number " + w, due[w], () -> x.advertisement(n, w));
+            }
+            CHECKS.answers("29: its cells", 100 + n, () -> x.owner(n / 2, 4, 12 * (n % 2)));
+        }
+        CHECKS.refuses("2: there have been 8", STATE, () -> x.addAdvertisement(0, 0, 0, 1, 1, 1));
+    }
+
+    private static void undoLeavesTheRest() {
+        NewspaperMakeup x = new NewspaperMakeup();
+        x.addStory(0, 1, 1, 1, 1);
+        x.layDown(0, 0, true, 0);
+        x.save();
+        x.change(0, 3, 7);
+        type(x, "l0,");
+        CHECKS.answers("29: not feed, save or layDown", 1, x::undo);
+        CHECKS.answers("29: the buffer stays", 4, () -> x.feed('1'));
+        CHECKS.answers("29: undo of the story", 0, x::undo);
+        CHECKS.answers("29: the shelf stays", 0, () -> x.takeUp(0, 0));
+        CHECKS.answers("27: the text in the buffer", 1, x::perform);
+        CHECKS.answers("29: two changes again", 1, x::undo);
+        CHECKS.answers("29: not late any more", 0, () -> x.story(0, 7));
+        x.undo();
+        CHECKS.answers("31: what was saved stays", 1, x::restore);
+    }
+
+    private static void whatWasSavedStays() {
+        NewspaperMakeup x = new NewspaperMakeup();
+        x.addStory(2, 3, 2, 77, 6);
+        x.setPhoto(0, 5, 2);
+        x.setLate(0, true);
+        x.addAdvertisement(1, 2, 3, 2, 4, 55);
+        x.save();
+        int[] due = {2, 3, 2, 77, 6, 5, 2, 1};
+        int[] advertisement = {1, 2, 3, 2, 4, 55};
+        for (int time = 0; time < 2; time++) {
+            x.change(0, 0, 1);
+            x.setPhoto(0, 0, 0);
+            perform(x, "l0,0;a1,0,0,2,3,4;s0,1,1,1,1");
+            x.remove(false, 0);
+            x.remove(true, 0);
+            CHECKS.answers("31: stories of what was saved", 1, x::restore);
+            for (int what = 0; what < due.length; what++) {
+                int w = what;
+                CHECKS.answers("31: story, number " + w, due[w], () -> x.story(0, w));
+            }
+            for (int what = 0; what < advertisement.length; what++) {
+                int w = what;
+                CHECKS.answers("31: advertisement, number " + w, advertisement[w],
+                        () -> x.advertisement(0, w));
+            }
+            CHECKS.answers("31: on its page", 0, () -> x.owner(2, 2, 0));
+            CHECKS.answers("31: the advertisement's cell", 1, () -> x.cell(1, 3, 6));
+            CHECKS.answers("31: one of each", 11, () -> 10 * x.count(0) + x.count(1));
+        }
+        x.remove(true, 0);
+        CHECKS.answers("30: no story", 0, x::save);
+        x.addStory(0, 1, 1, 1, 1);
+        CHECKS.answers("31: in place of what was saved before", 0, x::restore);
+        CHECKS.answers("31: the removed one's number is not used again", 1,
+                () -> x.addStory(0, 1, 1, 1, 1));
+    }
+
+    private static void changesAfterRestore() {
+        NewspaperMakeup x = new NewspaperMakeup();
+        for (int story = 0; story < 12; story++) {
+            x.addStory(0, 1, 1, 1, 1);
+        }
+        CHECKS.answers("30: twelve", 12, x::save);
+        CHECKS.answers("31: twelve", 12, x::restore);
+        CHECKS.refuses("31: no change can be taken back", STATE, x::undo);
+        CHECKS.refuses("31: there have been 12", STATE, () -> x.addStory(0, 1, 1, 1, 1));
+        x.change(4, 3, 9);
+        CHECKS.answers("31: but one afterwards", 0, x::undo);
+        CHECKS.answers("31: it is taken back", 1, () -> x.story(4, 3));
+        CHECKS.refuses("31: no other", STATE, x::undo);
+        x.change(4, 3, 9);
+        x.restore();
+        CHECKS.answers("31: restored again", 1, () -> x.story(4, 3));
+        CHECKS.refuses("31: no change can be taken back again", STATE, x::undo);
     }
 
     private static void saveAndRestore() {

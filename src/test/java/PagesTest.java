@@ -26,8 +26,14 @@ public final class PagesTest {
         fate();
         blamed();
         blamedIsTheGreatestRank();
+        nobodyAloneIsToBlame();
+        blamedFromAnotherPage();
+        theLesserRankIsToBlame();
         linesIf();
         trim();
+        trimOfOneThatFits();
+        lastCell();
+        linesIfAmongOthers();
         CHECKS.end();
     }
 
@@ -324,6 +330,116 @@ public final class PagesTest {
         x.setLate(2, true);
         CHECKS.answers("16: the late one has the least rank", 1, () -> x.blamed(0));
         CHECKS.answers("16: asking changes nothing", 2, () -> x.ranked(0));
+    }
+
+    /** Story 2 needs five rows of the six; without one of the others the other takes their place. */
+    private static void nobodyAloneIsToBlame() {
+        NewspaperMakeup x = new NewspaperMakeup();
+        x.addAdvertisement(3, 0, 6, 5, 18, 1);
+        x.addStory(3, 3, 1, 6, 9);
+        x.addStory(3, 3, 1, 6, 8);
+        x.addStory(3, 3, 3, 1, 7);
+        CHECKS.answers("16: left out", 3, () -> x.fate(2));
+        CHECKS.refuses("16: none of two alone", ELEMENT, () -> x.blamed(2));
+        x.remove(true, 0);
+        CHECKS.answers("16: but the one that is left", 1, () -> x.blamed(2));
+        x.remove(true, 1);
+        CHECKS.refuses("16: now it starts there", ELEMENT, () -> x.blamed(2));
+    }
+
+    private static void blamedFromAnotherPage() {
+        NewspaperMakeup x = new NewspaperMakeup();
+        x.addAdvertisement(1, 1, 0, 4, 24, 1);
+        x.addStory(1, 1, 3, 1, 0);
+        x.addStory(0, 3, 1, 69 + 20, 9);
+        CHECKS.answers("16: one that jumps to the page", 1, () -> x.blamed(0));
+        x.change(1, 3, 69);
+        CHECKS.refuses("16: it doesn't jump any more", ELEMENT, () -> x.blamed(0));
+        x.addStory(0, 3, 1, 22, 5);
+        x.change(2, 1, 1);
+        x.addAdvertisement(0, 3, 0, 2, 24, 1);
+        CHECKS.answers("16: one that is bumped to the page", 2, () -> x.fate(2));
+        CHECKS.answers("16: it's that one, not the one that bumps it", 2, () -> x.blamed(0));
+        x.setLate(2, true);
+        CHECKS.refuses("16: late, so it isn't bumped there", ELEMENT, () -> x.blamed(0));
+    }
+
+    private static void theLesserRankIsToBlame() {
+        NewspaperMakeup x = new NewspaperMakeup();
+        x.addAdvertisement(3, 1, 0, 4, 24, 1);
+        x.addAdvertisement(3, 0, 6, 1, 18, 1);
+        x.addStory(3, 1, 1, 5, 5);
+        x.addStory(3, 1, 1, 5, 5);
+        CHECKS.answers("16: the first is to blame", 0, () -> x.blamed(1));
+        CHECKS.refuses("16: it isn't bumped itself", ELEMENT, () -> x.blamed(0));
+        x.setLate(1, true);
+        CHECKS.answers("16: now the other way round", 1, () -> x.blamed(0));
+        x.setLate(0, true);
+        CHECKS.answers("16: and back", 0, () -> x.blamed(1));
+        x.change(1, 2, 3);
+        x.addAdvertisement(3, 0, 4, 1, 2, 1);
+        CHECKS.refuses("16: the rows would not be enough", ELEMENT, () -> x.blamed(1));
+    }
+
+    private static void trimOfOneThatFits() {
+        NewspaperMakeup x = new NewspaperMakeup();
+        x.addStory(0, 3, 1, 1, 5);
+        CHECKS.answers("18: one line", 0, () -> x.trim(0));
+        int[][] due = {{1, 0}, {2, 0}, {66, 0}, {67, 0}, {68, 0}, {69, 0}, {70, 1}, {71, 2},
+            {72, 3}, {150, 81}};
+        for (int[] d : due) {
+            x.change(0, 3, d[0]);
+            CHECKS.answers("18: of " + d[0] + " lines", d[1], () -> x.trim(0));
+        }
+        x.change(0, 3, 150 - x.trim(0));
+        CHECKS.answers("18: trimmed, it has one part", 1, () -> x.story(0, 10));
+        CHECKS.answers("18: and no line is cut", 0, () -> x.story(0, 12));
+        CHECKS.answers("18: and no more to trim", 0, () -> x.trim(0));
+        x.setPhoto(0, 8, 2);
+        CHECKS.answers("18: a photo takes ten rows", 30, () -> x.trim(0));
+        x.setPhoto(0, 0, 0);
+        x.addStory(0, 2, 1, 4, 9);
+        CHECKS.answers("18: beside another one", 0, () -> x.trim(0));
+        x.addStory(0, 3, 1, 6, 8);
+        CHECKS.answers("18: below another one", 9, () -> x.trim(0));
+    }
+
+    private static void lastCell() {
+        NewspaperMakeup x = new NewspaperMakeup();
+        x.addAdvertisement(3, 0, 0, 4, 24, 1);
+        x.addStory(3, 1, 1, 23, 0);
+        CHECKS.answers("13: the last cell", 3423, () -> x.locate(0, 22));
+        CHECKS.answers("10: the last cell", 5, () -> x.cell(3, 4, 23));
+        CHECKS.answers("11: the last cell", 0, () -> x.owner(3, 4, 23));
+        CHECKS.answers("13: the first line", 3401, () -> x.locate(0, 0));
+        x.remove(true, 0);
+        for (int number = 1; number < 12; number++) {
+            x.addStory(0, 1, 1, 1, 9);
+        }
+        x.change(11, 0, 3);
+        CHECKS.answers("11: the last story", 11, () -> x.owner(3, 4, 0));
+    }
+
+    /** A forecast for one story that would push the other aside; the other stays as it is. */
+    private static void linesIfAmongOthers() {
+        NewspaperMakeup x = new NewspaperMakeup();
+        x.addAdvertisement(3, 2, 0, 3, 24, 1);
+        x.addStory(3, 1, 1, 40, 9);
+        x.addStory(3, 1, 1, 23, 8);
+        x.addStory(3, 1, 1, 60, 7);
+        CHECKS.answers("17: left out", 0, () -> x.linesIf(2, false));
+        CHECKS.answers("17: late, with lines cut", 23, () -> x.linesIf(2, true));
+        CHECKS.answers("17: the one with lines cut", 23, () -> x.linesIf(0, true));
+        CHECKS.answers("17: the others stay", 46, () -> x.count(5));
+        x.setLate(2, true);
+        CHECKS.answers("17: now another one is left out", 0, () -> x.linesIf(1, false));
+        CHECKS.answers("17: it would take the place of 0", 23, () -> x.linesIf(1, true));
+        CHECKS.answers("17: it is not late", 0, () -> x.story(1, 7));
+        CHECKS.answers("17: the late one, if it were not", 0, () -> x.linesIf(2, false));
+        CHECKS.answers("17: it is late", 1, () -> x.story(2, 7));
+        x.change(0, 0, 0);
+        CHECKS.answers("17: with jumps", 40, () -> x.linesIf(0, false));
+        CHECKS.answers("17: with jumps, late", 40, () -> x.linesIf(0, true));
     }
 
     private static void linesIf() {

@@ -18,6 +18,10 @@ public final class ShelfTest {
         takeUpAdvertisement();
         takeUpRefuses();
         copiesStay();
+        everyPlaceIsItsOwn();
+        inPlaceOfWhatIsThere();
+        storyThatIsNotLate();
+        advertisementBackInItsCells();
         CHECKS.end();
     }
 
@@ -130,5 +134,76 @@ public final class ShelfTest {
         CHECKS.answers("24: undo leaves it, too", 1, x::undo);
         x.undo();
         CHECKS.answers("24: still there", 1, () -> x.takeUp(0, 1));
+    }
+
+    private static void everyPlaceIsItsOwn() {
+        NewspaperMakeup x = new NewspaperMakeup();
+        x.addStory(0, 1, 1, 1, 1);
+        for (int place = 0; place < 4; place++) {
+            x.addAdvertisement(3, place, 0, 1, 1, 500 + place);
+        }
+        for (int place = 0; place < 4; place++) {
+            int p = place;
+            x.change(0, 3, 10 + p);
+            CHECKS.answers("24: filled places of row 0", p + 1, () -> x.layDown(0, p, true, 0));
+            CHECKS.answers("24: filled places of row 1", p + 1, () -> x.layDown(1, p, false, p));
+            x.change(0, 3, 20 + p);
+            CHECKS.answers("24: filled places of row 2", p + 1, () -> x.layDown(2, p, true, 0));
+        }
+        for (int place = 0; place < 4; place++) {
+            int p = place;
+            x.remove(false, place);
+            CHECKS.answers("25: from row 0", 1 + 2 * p, () -> x.takeUp(0, p));
+            CHECKS.answers("25: its lines", 10 + p, () -> x.story(1 + 2 * p, 3));
+            CHECKS.answers("25: from row 1", 4 + p, () -> x.takeUp(1, p));
+            CHECKS.answers("25: its price", 500 + p, () -> x.advertisement(4 + p, 5));
+            CHECKS.answers("25: from row 2", 2 + 2 * p, () -> x.takeUp(2, p));
+            CHECKS.answers("25: its lines, too", 20 + p, () -> x.story(2 + 2 * p, 3));
+        }
+    }
+
+    private static void inPlaceOfWhatIsThere() {
+        NewspaperMakeup x = paper();
+        x.addStory(3, 1, 1, 1, 1);
+        x.layDown(2, 3, true, 0);
+        CHECKS.answers("24: an advertisement for a story", 1, () -> x.layDown(2, 3, false, 0));
+        x.remove(false, 0);
+        CHECKS.answers("25: it's the advertisement now", 1, () -> x.takeUp(2, 3));
+        CHECKS.answers("25: with its price", 678, () -> x.advertisement(1, 5));
+        CHECKS.answers("24: a story for an advertisement", 1, () -> x.layDown(2, 3, true, 1));
+        CHECKS.answers("25: it's the second story now", 2, () -> x.takeUp(2, 3));
+        int[] due = {3, 1, 1, 1, 1, 0, 0, 0};
+        for (int what = 0; what < due.length; what++) {
+            int w = what;
+            CHECKS.answers("25: second story, number " + w, due[w], () -> x.story(2, w));
+        }
+        CHECKS.answers("24: the other places are empty", 1, () -> x.layDown(0, 3, true, 1));
+    }
+
+    private static void storyThatIsNotLate() {
+        NewspaperMakeup x = paper();
+        x.setLate(0, false);
+        x.layDown(0, 0, true, 0);
+        x.setLate(0, true);
+        x.takeUp(0, 0);
+        CHECKS.answers("25: not late", 0, () -> x.story(1, 7));
+        CHECKS.answers("25: the other one is", 1, () -> x.story(0, 7));
+        CHECKS.answers("25: so it comes after it", 1, () -> x.story(1, 8));
+        CHECKS.answers("25: its own first line", 1211, () -> x.locate(1, 0));
+    }
+
+    private static void advertisementBackInItsCells() {
+        NewspaperMakeup x = paper();
+        x.layDown(1, 0, false, 0);
+        x.remove(false, 0);
+        x.addAdvertisement(2, 4, 7, 1, 2, 1);
+        CHECKS.refuses("25: one cell in common", STATE, () -> x.takeUp(1, 0));
+        CHECKS.answers("25: none was added", 1, () -> x.count(1));
+        x.remove(false, 1);
+        x.addAdvertisement(2, 0, 2, 5, 1, 1);
+        CHECKS.answers("25: side by side", 3, () -> x.takeUp(1, 0));
+        CHECKS.answers("25: a change", 7, x::undo);
+        CHECKS.answers("25: the cells are free again", 0, () -> x.cell(2, 4, 7));
+        CHECKS.answers("25: the number comes back", 3, () -> x.takeUp(1, 0));
     }
 }
