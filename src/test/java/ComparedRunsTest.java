@@ -1,11 +1,13 @@
 /**
  * Runs of 512 calls on fresh objects, each call compared with PlainMakeup. The calls come from a
- * fixed formula, so that every run of the test makes the same ones.
+ * fixed formula, so that every run of the test makes the same ones. In every fourth run there are
+ * no commands, whose letters use many of the calls up.
  */
 public final class ComparedRunsTest {
     private static final int CALLS = 512;
     private static final int MOST_SHOWN = 20;
     private static int shown;
+    private static int calls;
     private static long seed;
     private static String call;
 
@@ -14,7 +16,7 @@ public final class ComparedRunsTest {
     }
 
     public static void main(String[] args) {
-        int runs = args.length > 0 ? Integer.parseInt(args[0]) : 200;
+        int runs = args.length > 0 ? Integer.parseInt(args[0]) : 500;
         int first = args.length > 1 ? Integer.parseInt(args[1]) : 0;
         int wrong = 0;
         for (int run = first; run < first + runs; run++) {
@@ -30,18 +32,24 @@ public final class ComparedRunsTest {
         seed = run * 7919L + 17;
         NewspaperMakeup x = new NewspaperMakeup();
         PlainMakeup y = new PlainMakeup();
+        calls = 0;
         boolean fillsFirst = run % 4 != 3;
-        for (int number = 0; number < CALLS; number++) {
-            int kind = fillsFirst && number < 24 ? next(5) : next(100);
-            String got = take(kind, x, y);
+        boolean hasCommands = run % 4 != 1;
+        while (calls < CALLS) {
+            int kind = fillsFirst && calls < 24 ? next(5) : next(100);
+            String got = hasCommands || !isCommands(kind) ? take(kind, x, y) : null;
             if (got != null) {
                 if (shown++ < MOST_SHOWN) {
-                    System.out.println("run " + run + ", call " + number + ": " + call + got);
+                    System.out.println("run " + run + ", call " + calls + ": " + call + got);
                 }
                 return 1;
             }
         }
         return 0;
+    }
+
+    private static boolean isCommands(int kind) {
+        return kind >= 70 && kind < 80;
     }
 
     private static int next(int bound) {
@@ -64,7 +72,12 @@ public final class ComparedRunsTest {
         return least + next(greatest - least + 1);
     }
 
+    /** Null if both answer the same, or have had all their calls. */
     private static String compare(String name, Answer x, Answer y) {
+        if (calls >= CALLS) {
+            return null;
+        }
+        calls++;
         Object got = answerOf(x);
         Object due = answerOf(y);
         call = name;
@@ -224,7 +237,7 @@ public final class ComparedRunsTest {
     }
 
     private static String takeOther(int kind, NewspaperMakeup x, PlainMakeup y) {
-        if (kind < 80) {
+        if (isCommands(kind)) {
             return takeCommands(x, y);
         }
         int level = near(0, 1);
