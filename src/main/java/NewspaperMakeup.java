@@ -41,7 +41,7 @@ public final class NewspaperMakeup {
     private static final int AD_NUMBERS = 6;
     private static final int GREATEST_PRICE = 999;
 
-    // The numbers of a part.
+    // The numbers of a part; those up to PART_JUMPS can be asked for.
     private static final int PART_PAGE = 0;
     private static final int PART_COLUMN = 1;
     private static final int PART_ROW = 2;
@@ -50,13 +50,15 @@ public final class NewspaperMakeup {
     private static final int PART_LINES = 5;
     private static final int PART_FIRST_LINE = 6;
     private static final int PART_JUMPS = 7;
-    private static final int PART_NUMBERS = 8;
+    private static final int PART_HEAD = 8;
+    private static final int PART_NUMBERS = 9;
 
     /** A story has at most one part on each page. */
     private static final int PARTS = PAGES;
 
     private static final int ROWS_BELOW_HEAD = 2;
     private static final int ROWS_TO_GO_ON = 3;
+    private static final int JUMP_HEAD_ROWS = 1;
 
     private static final int FREE = 0;
     private static final int KIND_ADVERTISEMENT = 1;
@@ -95,10 +97,10 @@ public final class NewspaperMakeup {
     private int reportedFault;
 
     public NewspaperMakeup() {
-        edition = new Edition();
-        pages = new Pages(edition);
-        trial = new Edition();
-        trialPages = new Pages(trial);
+        pages = new Pages();
+        edition = pages.edition;
+        trialPages = new Pages();
+        trial = trialPages.edition;
         history = new History();
         saved = new Edition();
         shelf = new Shelf();
@@ -226,7 +228,7 @@ public final class NewspaperMakeup {
         if (part < 0 || part >= pages.partCountOf(story)) {
             throw new IndexOutOfBoundsException();
         }
-        if (what < 0 || what >= PART_NUMBERS) {
+        if (what < 0 || what > PART_JUMPS) {
             throw new IllegalArgumentException();
         }
         return pages.partNumber(story, part, what);
@@ -665,7 +667,7 @@ public final class NewspaperMakeup {
         }
 
         int storyNumber(int story, int what) {
-            if (!isStoryIndex(story) || what < 0 || what >= STORY_NUMBERS) {
+            if (story < 0 || story >= STORIES || what < 0 || what >= STORY_NUMBERS) {
                 return 0;
             }
             return storyNumbers[story * STORY_NUMBERS + what];
@@ -860,9 +862,9 @@ public final class NewspaperMakeup {
         }
     }
 
-    /** What is on the pages of an edition, as of the latest call of layOut. */
+    /** An edition, and what is on its pages as of the latest call of layOut. */
     private static final class Pages {
-        private final Edition edition;
+        private final Edition edition = new Edition();
         private final int[] kinds = new int[PAGES * PAGE_CELLS];
         private final int[] owners = new int[PAGES * PAGE_CELLS];
         private final int[] storiesByRank = new int[STORIES];
@@ -871,10 +873,6 @@ public final class NewspaperMakeup {
         private final int[] partNumbers = new int[STORIES * PARTS * PART_NUMBERS];
         private final int[] placedLines = new int[STORIES];
         private final int[] startDepths = new int[STORIES];
-
-        Pages(Edition edition) {
-            this.edition = edition;
-        }
 
         void layOut() {
             clear();
@@ -943,7 +941,9 @@ public final class NewspaperMakeup {
         private void placeStory(int story) {
             int index = findStart(story);
             for (int part = 0; part < PARTS && index != NONE; part++) {
-                index = part == 0 ? placeStart(story, index) : placeContinuation(story, index);
+                int next = findGoOn(index);
+                index = part == 0
+                        ? placeStart(story, index, next) : placeContinuation(story, index, next);
                 paintPart(story, part);
             }
         }
@@ -951,34 +951,24 @@ public final class NewspaperMakeup {
         private int findStart(int story) {
             int own = edition.storyNumber(story, PAGE);
             int last = edition.isLate(story) ? own : PAGES - 1;
-            int width = edition.storyNumber(story, WIDTH);
             int rows = edition.headRows(story) + ROWS_BELOW_HEAD;
-            for (int page = own; page <= last; page++) {
-                int index = findBlock(page, width, rows);
-                if (index != NONE) {
-                    return index;
-                }
-            }
-            return NONE;
+            return findBlock(own, last, edition.storyNumber(story, WIDTH), rows);
         }
 
-        private int findGoOn(int firstPage) {
-            for (int page = firstPage; page < PAGES; page++) {
-                int index = findBlock(page, 1, ROWS_TO_GO_ON);
-                if (index != NONE) {
-                    return index;
-                }
-            }
-            return NONE;
+        /** Where a story that comes from this cell's page can go on, or NONE. */
+        private int findGoOn(int index) {
+            return findBlock(pageOf(index) + 1, PAGES - 1, 1, ROWS_TO_GO_ON);
         }
 
         /** The upper left cell of the block of free cells that is to be taken, or NONE. */
-        private int findBlock(int page, int width, int rows) {
-            for (int row = 0; row <= ROWS - rows; row++) {
-                for (int column = 0; column <= COLUMNS - width; column++) {
-                    int index = cellIndex(page, column, row);
-                    if (freeRows(index, width) >= rows) {
-                        return index;
+        private int findBlock(int firstPage, int lastPage, int width, int rows) {
+            for (int page = firstPage; page <= lastPage; page++) {
+                for (int row = 0; row <= ROWS - rows; row++) {
+                    for (int column = 0; column <= COLUMNS - width; column++) {
+                        int index = cellIndex(page, column, row);
+                        if (freeRows(index, width) >= rows) {
+                            return index;
+                        }
                     }
                 }
             }
@@ -1000,8 +990,11 @@ public final class NewspaperMakeup {
             return rows;
         }
 
-        /** Makes the first part of a story; returns the cell at which it goes on, or NONE. */
-        private int placeStart(int story, int index) {
+        /**
+         * Makes the first part of a story, which can go on at the cell next, or nowhere if that is
+         * NONE; returns next if it does go on, otherwise NONE.
+         */
+        private int placeStart(int story, int index, int next) {
             int width = edition.storyNumber(story, WIDTH);
             int head = edition.headRows(story);
             int lines = edition.storyNumber(story, LINES);
@@ -1011,22 +1004,20 @@ public final class NewspaperMakeup {
                 addPart(story, index, width, head + linesOfColumn(lines, width, 0), lines, false);
                 return NONE;
             }
-            int next = findGoOn(pageOf(index) + 1);
             boolean jumps = next != NONE;
             int lineRows = jumps ? depth - 1 : depth;
             addPart(story, index, width, head + depth, width * lineRows, jumps);
             return next;
         }
 
-        /** Makes a later part of a story; returns the cell at which it goes on again, or NONE. */
-        private int placeContinuation(int story, int index) {
+        /** Makes a later part of a story; next and the answer are as for placeStart. */
+        private int placeContinuation(int story, int index, int next) {
             int depth = freeRows(index, 1);
             int remaining = linesCut(story);
             if (remaining <= depth - 1) {
-                addPart(story, index, 1, 1 + remaining, remaining, false);
+                addPart(story, index, 1, JUMP_HEAD_ROWS + remaining, remaining, false);
                 return NONE;
             }
-            int next = findGoOn(pageOf(index) + 1);
             boolean jumps = next != NONE;
             addPart(story, index, 1, depth, jumps ? depth - 2 : depth - 1, jumps);
             return next;
@@ -1052,6 +1043,7 @@ public final class NewspaperMakeup {
             partNumbers[at + PART_LINES] = lines;
             partNumbers[at + PART_FIRST_LINE] = placedLines[story];
             partNumbers[at + PART_JUMPS] = jumps ? 1 : 0;
+            partNumbers[at + PART_HEAD] = part == 0 ? edition.headRows(story) : JUMP_HEAD_ROWS;
             placedLines[story] += lines;
             partCounts[story] = part + 1;
         }
@@ -1062,7 +1054,8 @@ public final class NewspaperMakeup {
             int jumpRows = partNumber(story, part, PART_JUMPS);
             paintPartHead(story, part);
             int index = firstLineCell(story, part);
-            int lineRows = partNumber(story, part, PART_ROWS) - rowsAboveLines(story, part) - jumpRows;
+            int lineRows = partNumber(story, part, PART_ROWS)
+                    - partNumber(story, part, PART_HEAD) - jumpRows;
             paintBlock(index, width, lineRows, WHITE, story);
             for (int column = 0; column < width; column++) {
                 paintBlock(index + column, 1, linesOfColumn(lines, width, column), KIND_LINE, story);
@@ -1074,7 +1067,7 @@ public final class NewspaperMakeup {
             int index = firstCell(story, part);
             int width = partNumber(story, part, PART_WIDTH);
             if (part > 0) {
-                paintBlock(index, width, 1, KIND_JUMP_HEAD, story);
+                paintBlock(index, width, JUMP_HEAD_ROWS, KIND_JUMP_HEAD, story);
                 return;
             }
             int headline = edition.storyNumber(story, HEADLINE);
@@ -1102,17 +1095,13 @@ public final class NewspaperMakeup {
             return width < 1 ? 0 : (lines + width - 1 - column) / width;
         }
 
-        private int rowsAboveLines(int story, int part) {
-            return part == 0 ? edition.headRows(story) : 1;
-        }
-
         private int firstCell(int story, int part) {
             return cellIndex(partNumber(story, part, PART_PAGE),
                     partNumber(story, part, PART_COLUMN), partNumber(story, part, PART_ROW));
         }
 
         private int firstLineCell(int story, int part) {
-            return firstCell(story, part) + rowsAboveLines(story, part) * COLUMNS;
+            return firstCell(story, part) + partNumber(story, part, PART_HEAD) * COLUMNS;
         }
 
         /** The cell in which a line is, NONE if it is on no page. */
@@ -1150,7 +1139,7 @@ public final class NewspaperMakeup {
         }
 
         int partNumber(int story, int part, int what) {
-            if (!isStoryIndex(story) || part < 0 || part >= PARTS
+            if (story < 0 || story >= STORIES || part < 0 || part >= PARTS
                     || what < 0 || what >= PART_NUMBERS) {
                 return 0;
             }
@@ -1174,7 +1163,7 @@ public final class NewspaperMakeup {
         }
 
         int startPageOf(int story) {
-            return isLeftOut(story) ? NONE : partNumber(story, 0, PART_PAGE);
+            return partCountOf(story) == 0 ? NONE : partNumber(story, 0, PART_PAGE);
         }
 
         boolean startsOnOwnPage(int story) {
